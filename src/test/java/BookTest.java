@@ -143,6 +143,12 @@ public final class BookTest {
         Check.due("loads of 1", g.cell(1, 1, 2) * 100 + g.cell(0, 0, 2), 3403);
         Check.due("props of 1", g.house(0, 2) * 100 + g.house(1, 2), 145);
         Check.due("seed of 1", g.seed(1), 67);
+        Check.due("pushed of 1", g.told(11), 6);
+        g.roll(4);
+        Check.due("the cart has gone", g.told(10), 0);
+        g.goBack(1);
+        Check.due("the cart of 1", g.told(10), 10);
+        g.seed(1);
         Check.due("keep(0) over it", g.keep(0), 1);
         g.seed(2);
         g.goBack(0);

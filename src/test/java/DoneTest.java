@@ -65,6 +65,12 @@ public final class DoneTest {
         Check.due("level to the south", g.roll(3), 0);
         Check.due("at 0 1", g.told(10), 1);
         Check.due("steps so far", g.told(8), 6);
+        Check.due("one cell: staying", Check.of("g1 1 0 0;").roll(0), 0);
+        Check.due("one cell: no way out", Check.of("g1 1 0 0;").roll(2), Check.NOT);
+        TidedGround column = Check.of("g1 3 0 0;");
+        column.roll(3);
+        column.roll(3);
+        Check.due("down a column", column.told(10), 2);
         Check.due("no cells", new TidedGround().roll(0), Check.NOT);
         Check.due("no cells, no way", new TidedGround().roll(9), Check.OUTSIDE);
     }
@@ -123,6 +129,8 @@ public final class DoneTest {
         Check.due("a load of 9 makes nothing stiff", g.height(1, 0, 0), 15);
         Check.due("load 10", g.load(1, 0, 10), 9);
         Check.due("a load of 10", g.height(1, 0, 0), 14);
+        Check.due("load 0", g.load(1, 0, 0), 10);
+        Check.due("no load", g.cell(1, 0, 2), 0);
         Check.due("another cell", g.cell(0, 1, 2), 0);
         Check.due("load(2, 0)", g.load(2, 0, 91), Check.UNKNOWN);
         Check.due("load(0, 2)", g.load(0, 2, 0), Check.UNKNOWN);
@@ -143,6 +151,8 @@ public final class DoneTest {
 
     private static void shift() {
         TidedGround g = Check.of("g2 1 0 1;m0 0 9,10,11,12,13,14,15;m0 0 9,9;");
+        Check.due("shift 3", g.shift(0, 3), 0);
+        Check.due("shift 0", g.shift(0, 0), 3);
         Check.due("shift 6", g.shift(0, 6), 0);
         Check.due("pull by 6", g.cell(0, 0, 4), 6);
         Check.due("shift 7", g.shift(0, 7), 6);
@@ -224,6 +234,16 @@ public final class DoneTest {
         int up = hill.told(11) / 5;
         Check.due("pushed by fives", hill.told(11) % 5, 0);
         Check.due("pushed at all", up > 0 ? 1 : 0, 1);
+        // Shut at even steps alone: by draws too, the cart comes east at an even step.
+        TidedGround crack = Check.of("g2 1 0 0;m0 0 9,10;k0 0 0 30;");
+        for (int i = 1; i < 200; i++) {
+            int was = crack.told(10);
+            if (crack.drift(1) != was) {
+                Check.due("over the crack at an odd step", i % 2, 0);
+                more++;
+            }
+        }
+        Check.due("over the crack at all", more > 20 ? 1 : 0, 1);
         TidedGround wall = Check.of("g2 1 0 0;c1 0 21 0;");
         wall.seed(7);
         Check.due("no way up a wall", wall.drift(99), 0);

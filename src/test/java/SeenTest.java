@@ -9,6 +9,8 @@ public final class SeenTest {
         fitsUnderLoad();
         look();
         lookThatTellsNothing();
+        lookAtTheLastStep();
+        lookAtGreatPulls();
         manyFit();
         odds();
         Check.end();
@@ -127,11 +129,52 @@ public final class SeenTest {
         g.see(0, 0, 0, 11);
         Check.due("two that look alike", g.fits(-1, 0), 2);
         Check.due("no look tells them apart", g.look(0), Check.NONE);
-        // A difference at step 11 counts, one at step 12 does not: seen at 0, parts but one are 0.
         TidedGround far = Check.of("g1 1 10 1;m0 0 9,9,9,9,9,9,9,10,9;m0 0 9,9;");
         far.see(0, 0, 0, 10);
         Check.due("sixteen of eighteen", far.fits(-1, 0), 16);
         Check.due("the first step that tells", far.look(1), 1);
+    }
+
+    /** A look at step 11 counts, one at step 12 does not. */
+    private static void lookAtTheLastStep() {
+        TidedGround g = seenUpTo("g1 1 10 1;m0 0 8,10,8,8,10;m0 0 8,8,8,8,10,8,8,8,10;", 1, 6, 10);
+        Check.due("two are alike up to step 10", g.fits(-1, 0), 2);
+        Check.due("the cell at 11", g.look(0), 0);
+        Check.due("the step 11", g.look(1), 11);
+        Check.due("left at 11", g.look(2), 1);
+        TidedGround h = seenUpTo("g1 1 10 1;m0 0 8,9,10,9,10,9,10,9,10;m0 0 8,9,10,9,10,9,10;", 4, 1, 11);
+        Check.due("two are alike up to step 11", h.fits(-1, 0), 2);
+        Check.due("step 12 is too late", h.look(1), Check.NONE);
+    }
+
+    private static TidedGround seenUpTo(String text, int shift0, int shift1, int last) {
+        TidedGround g = Check.of(text);
+        g.shift(0, shift0);
+        g.shift(1, shift1);
+        for (int t = 0; t <= last; t++) {
+            g.see(0, 0, t, g.height(0, 0, t));
+        }
+        return g;
+    }
+
+    /** Parts of 9 and -9 by three moons: pulls of -27, -9, 9, 27 by 1, 3, 3, 1 of the eight that fit. */
+    private static void lookAtGreatPulls() {
+        TidedGround g = Check.of("g1 1 50 1;m0 0 0,18;m0 0 0,18;m0 0 0,18;");
+        Check.due("three of eight are left", g.look(2), 3);
+        Check.due("the first step", g.look(1), 0);
+        g.see(0, 0, 0, 59);
+        Check.due("three fit", g.fits(-1, 0), 3);
+        Check.due("no look tells them apart", g.look(2), Check.NONE);
+        // Of 2, 3 and 4 parts, one of each is another: all by itself each moon can be told.
+        TidedGround h = Check.of("g3 1 50 1;m0 1 0,18;m1 0 9,9,12;m2 0 9,9,9,10;");
+        Check.due("24 fit", h.fits(-1, 0), 24);
+        // At any cell and step: 6 of each half have neither, 3 the 3 alone, 2 the 1 alone, 1 both.
+        Check.due("six are left", h.look(2), 6);
+        h.see(0, 0, 0, 41);
+        Check.due("moon 0 is known", h.fits(-1, 0), 6);
+        // At cell 0 0 all six have neither; at 1 0 moon 1 is told apart, by one of two.
+        Check.due("the cell that tells most", h.look(0), 10);
+        Check.due("left of six", h.look(2), 2);
     }
 
     private static void manyFit() {

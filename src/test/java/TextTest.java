@@ -10,6 +10,7 @@ public final class TextTest {
         again();
         firstOfSeveral();
         whatANewGroundClears();
+        nothingIsLeftOfTextsBefore();
         whatAFaultLeaves();
         Check.end();
     }
@@ -288,6 +289,41 @@ public final class TextTest {
         Check.due("ground() of one cell", g.ground(), 1);
         Check.due("its base", g.cell(0, 0, 0), 4);
         Check.due("its height without moons", g.cell(0, 0, 5), 4);
+    }
+
+    /** Rows are used again: a ground after the next must not show what the one before had. */
+    private static void nothingIsLeftOfTextsBefore() {
+        String rich = "g2 2 7 3;c0 0 1 1;c1 0 1 1;c0 1 1 1;c1 1 1 1;m3 5 18,18;m3 5 18,18;m3 5 18,18;h0 0 1;k0 0 0 0;w0 0 1;d0 0;";
+        TidedGround g = Check.of(rich);
+        for (int i = 0; i < 4; i++) {
+            Check.feed(g, rich);
+            Check.due("ground() of the rich text again", g.ground(), 4);
+            Check.due("its houses", g.told(3), 1);
+            Check.due("its moons", g.told(2), 3);
+        }
+        for (int i = 0; i < 2; i++) {
+            Check.feed(g, "g3 2 7 3;m1 1 9,10,11;");
+            Check.due("ground() of a poor text", g.ground(), 6);
+            for (int what = 3; what <= 6; what++) {
+                Check.due("told(" + what + ") of a poor text", g.told(what), 0);
+            }
+            Check.due("moons of a poor text", g.told(2), 1);
+            Check.due("period of a poor text", g.told(9), 3);
+            Check.due("base of a poor text", g.cell(0, 0, 0), 7);
+            Check.due("fits of a poor text", g.fits(-1, 0), 3);
+            g.see(1, 1, 0, 13);
+            Check.due("fits of a poor text with a pull of 2", g.fits(0, 0), 0);
+            Check.due("and no more", g.fits(-1, 0), 1);
+        }
+        g.ground();
+        g.ground();
+        Check.due("cells of no text", g.cell(0, 0, 0), Check.UNKNOWN);
+        Check.due("rows of no text", g.told(1), 0);
+        String cells = "g4 3 0 0;c0 0 1 1;c1 0 1 1;c2 0 1 1;c3 0 1 1;c0 1 1 1;c1 1 1 1;c2 1 1 1;";
+        for (int i = 0; i < 3; i++) {
+            Check.feed(g, cells);
+            Check.due("seven cells told anew", g.ground(), 12);
+        }
     }
 
     private static void whatAFaultLeaves() {

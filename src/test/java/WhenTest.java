@@ -58,6 +58,11 @@ public final class WhenTest {
         Check.due("aslant(900000)", g.aslant(LAST), 0);
         Check.due("aslant(-1)", g.aslant(-1), Check.OUTSIDE);
         Check.due("aslant(900001)", g.aslant(LAST + 1), Check.OUTSIDE);
+        // Cell 1 0 is 0, 0, 1: aslant at steps that leave 2 by 3.
+        TidedGround three = Check.of("g2 1 0 0;c1 0 0 1;m0 0 9,9,10;");
+        Check.due("aslant(0) of three", three.aslant(0), 2);
+        Check.due("aslant(1) of three", three.aslant(1), 1);
+        Check.due("aslant(3) of three", three.aslant(3), 2);
         Check.due("flat ground", Check.of("g2 1 5 0;").aslant(0), Check.NONE);
         Check.due("one cell", Check.of("g1 1 5 0;").aslant(0), Check.NONE);
         Check.due("one cell, no step", Check.of("g1 1 5 0;").aslant(-1), Check.OUTSIDE);
