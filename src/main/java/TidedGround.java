@@ -682,7 +682,7 @@ public final class TidedGround {
         }
 
         int partAt(int cell, int step, int shift) {
-            return row[placeAt(cell, step) + shift];
+            return size < 1 ? 0 : row[(step + ahead[cell]) % size + shift];
         }
     }
 
@@ -776,7 +776,7 @@ public final class TidedGround {
 
         /** The cell that a step of the cart leads to; staying leads to the cell itself. */
         int beside(int cell, int way) {
-            if (width < 1 || isNoWay(way)) {
+            if (width < 1 || way < 0 || way >= WAYS) {
                 return NONE;
             }
             return cellAt(cell % width + WAY_X[way], cell / width + WAY_Y[way]);
@@ -897,22 +897,17 @@ public final class TidedGround {
             }
         }
 
-        /** How many numbers the row has. */
+        /** How many numbers the row has; behind nine a further ',' is left for the ';' to be missed at it. */
         private int readRow(int[] row) {
-            row[0] = readNumber(0, 18) - 9;
-            int size = 1;
-            for (int i = 1; i <= LONGEST_ROW && faultNumber == 0; i++) {
+            int size = 0;
+            while (size < LONGEST_ROW && faultNumber == 0) {
+                row[size] = readNumber(0, 18) - 9;
+                size++;
                 skipBlanks();
-                if (at >= length || text[at] != ',') {
+                if (size == LONGEST_ROW || at >= length || text[at] != ',') {
                     break;
                 }
-                refuseIf(size == LONGEST_ROW, 1, at);
                 at++;
-                int a = readNumber(0, 18);
-                if (faultNumber == 0) {
-                    row[size] = a - 9;
-                    size++;
-                }
             }
             refuseIf(size < 2, 1, at);
             return size;
@@ -1178,7 +1173,11 @@ public final class TidedGround {
             if (there == cell) {
                 return 0;
             }
-            if (there == NONE || isBarred(cell, there, when)) {
+            if (there == NONE) {
+                return NONE;
+            }
+            int k = crackBetween(cell, there);
+            if (k != NONE && isOpen(k, when)) {
                 return NONE;
             }
             int slope = heightAt(there, when, NONE) - heightAt(cell, when, NONE);
@@ -1186,11 +1185,10 @@ public final class TidedGround {
         }
 
         /** A crack belongs to the western or northern cell of the two, which has the lesser number. */
-        private boolean isBarred(int cell, int there, int when) {
+        private int crackBetween(int cell, int there) {
             int own = Math.min(cell, there);
             int side = plan.beside(own, EAST) == Math.max(cell, there) ? 0 : 1;
-            int k = plan.cracks.find(own, side);
-            return k != NONE && isOpen(k, when);
+            return plan.cracks.find(own, side);
         }
 
         /** The cart takes a step that may be. */

@@ -145,6 +145,11 @@ public final class SeenTest {
         TidedGround h = seenUpTo("g1 1 10 1;m0 0 8,9,10,9,10,9,10,9,10;m0 0 8,9,10,9,10,9,10;", 4, 1, 11);
         Check.due("two are alike up to step 11", h.fits(-1, 0), 2);
         Check.due("step 12 is too late", h.look(1), Check.NONE);
+        // The same by parts of -9 and 0, with a moon that is always -9: pulls of -27 at many steps before.
+        TidedGround low = seenUpTo("g1 1 50 1;m0 0 0,9,0,0,9;m0 0 0,0,0,0,9,0,0,0,9;m0 0 0,0;", 1, 6, 10);
+        Check.due("twice two are alike", low.fits(-1, 0), 4);
+        Check.due("the step 11 by low pulls", low.look(1), 11);
+        Check.due("left by low pulls", low.look(2), 2);
     }
 
     private static TidedGround seenUpTo(String text, int shift0, int shift1, int last) {
