@@ -286,7 +286,8 @@ public final class EdgeBookTest {
         "g6 4 5 0;c1 0 9 0;m0 0 9,9;m0 0 9,9;m0 0 9,9;h0 0 1;h1 0 1;h2 0 1;h3 0 1;h4 0 1;h5 3 1;";
 
     private static void whatAnImageKeeps() {
-        Edge.says("Promises 38, 39 (keep, goBack), row 3", "IMAGES 0, 1 keep THE STEP, SHIFTS, LOADS, PROPS, the cart, PUSHED, STEEP, THE SEED.");
+        Edge.says("Promises 38, 39 (keep, goBack), row 3",
+            "IMAGES 0, 1 keep THE STEP, SHIFTS, LOADS, PROPS, the cart, PUSHED, STEEP, THE SEED.");
         for (int i = 0; i <= 1; i++) {
             TidedGround g = Check.of(SIX_HOUSES);
             g.roll(2);
@@ -317,7 +318,8 @@ public final class EdgeBookTest {
     }
 
     private static void whatAnImageDoesNotKeep() {
-        Edge.says("Promise 39 (goBack), row 3", "IMAGES 0, 1 keep THE STEP, SHIFTS, LOADS, PROPS, the cart, PUSHED, STEEP, THE SEED.");
+        Edge.says("Promise 39 (goBack), row 3",
+            "IMAGES 0, 1 keep THE STEP, SHIFTS, LOADS, PROPS, the cart, PUSHED, STEEP, THE SEED.");
         TidedGround g = Check.of("g1 1 5 1;m0 0 9,10;");
         g.write(0);
         g.see(0, 0, 0, 5);

@@ -274,7 +274,8 @@ public final class EdgeDoneTest {
     }
 
     private static void shiftBounds() {
-        Edge.says("Promise 16 (shift)", "The SHIFT of a MOON becomes v, left over by N (0 .. 999): what it was. UNKNOWN, OUTSIDE.");
+        Edge.says("Promise 16 (shift)",
+            "The SHIFT of a MOON becomes v, left over by N (0 .. 999): what it was. UNKNOWN, OUTSIDE.");
         for (int n = 2; n <= 9; n++) {
             TidedGround g = Check.of("g1 1 0 1;m0 0 9" + ",9".repeat(n - 1) + ";");
             int was = 0;

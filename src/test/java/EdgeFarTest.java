@@ -19,6 +19,7 @@ public final class EdgeFarTest {
         stepsItself();
         beyondIt();
         booksAcrossIt();
+        theLastCall();
         Check.end();
     }
 
@@ -45,7 +46,8 @@ public final class EdgeFarTest {
         return new int[] {g.level(3, 2, t), g.level(4095, 60, t), g.level(0x810, 9, t), g.level(0x800, 0, t), g.aslant(t),
             g.turn(0, 0, t), g.turn(3, 2, t), g.most(2, 0, t, 1), g.bell(1, 1, 30, t, 0), g.bell(1, 1, 30, t, 1),
             g.bell(3, 2, 45, t, 0), g.breaks(t, 1), g.water(100, t, 0), g.water(100, t, 1), g.water(1, t, 2), g.whose(0, t),
-            g.whose(1, t), g.odds(0, 30, 1, 1, 25, t), g.odds(2, 30, 2, 1, 20, t), g.height(3, 2, t), g.crack(0, t), g.crack(1, t)};
+            g.whose(1, t), g.odds(0, 30, 1, 1, 25, t), g.odds(2, 30, 2, 1, 20, t), g.height(3, 2, t), g.crack(0, t),
+            g.crack(1, t)};
     }
 
     private static void acrossIt() {
@@ -119,5 +121,18 @@ public final class EdgeFarTest {
                 }
             }
         }
+    }
+
+    private static void theLastCall() {
+        Edge.says("Promises 1, 11 (a new object, pass)", "An object is used for at most 512 calls after it has been made");
+        TidedGround g = new TidedGround();
+        for (int call = 1; call <= 512; call++) {
+            Edge.due("pass(1) as call " + call, g.pass(1), call);
+        }
+        TidedGround text = Check.of("g2 1 5 1;m0 0 9,10;");
+        for (int call = 21; call < 512; call++) {
+            text.drift(1);
+        }
+        Edge.due("told(8) as the last call", text.told(8), 491);
     }
 }

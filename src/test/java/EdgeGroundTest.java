@@ -13,6 +13,7 @@ public final class EdgeGroundTest {
         leftOverByN();
         pullOfAllMoons();
         stiffIsZeroAtLeast();
+        cutTowards0();
         heightsAtTheirEnds();
         leanOfOneAlone();
         leanWithoutSign();
@@ -62,15 +63,23 @@ public final class EdgeGroundTest {
             wide.roll(3);
             Edge.due("told(10) to the south", wide.told(10), 50 + i);
         }
-        TidedGround high = Check.of("g4 6 0 0;");
-        for (int i = 1; i <= 5; i++) {
-            high.roll(3);
-            Edge.due("told(10) to the south", high.told(10), i);
+        for (String size : new String[] {"g4 6", "g1 6"}) {
+            TidedGround high = Check.of(size + " 0 0;h0 5 1;h0 1 1;");
+            for (int i = 1; i <= 5; i++) {
+                high.roll(3);
+                Edge.due("told(10) to the south of " + size, high.told(10), i);
+            }
+            Edge.due("the house on 0 5 of " + size, high.house(0, 0), 5);
+            Edge.due("the house on 0 1 of " + size, high.house(1, 0), 1);
+            Edge.due("soonest from 0 to 5 of " + size, high.soonest(0, 5, 0), 5);
         }
+        Edge.due("a row of six, its last cell", Check.of("g6 1 0 0;h5 0 1;").house(0, 0), 50);
+        Edge.due("look in a column", Check.of("g1 6 0 0;c0 5 0 1;m0 0 9,10;").look(0), 5);
     }
 
     private static void toldAtBothEnds() {
-        Edge.says("Promise 5 (told)", "0 W, 1 H, 2 MOONS, 3 HOUSES, 4 CRACKS, 5 WELLS, 6 DEEDS, 7 letters of THE TEXT, 8 THE STEP");
+        Edge.says("Promise 5 (told)",
+            "0 W, 1 H, 2 MOONS, 3 HOUSES, 4 CRACKS, 5 WELLS, 6 DEEDS, 7 letters of THE TEXT, 8 THE STEP");
         TidedGround least = Check.of("g1 1 0 0;");
         int[] none = {1, 1, 0, 0, 0, 0, 0, 0, 0};
         TidedGround full = Check.of(Edge.FULLEST);
@@ -223,6 +232,17 @@ public final class EdgeGroundTest {
         }
     }
 
+    private static void cutTowards0() {
+        Edge.says("Promise 6 (cell), Terms", "/ cuts towards 0");
+        TidedGround g = Check.of("g1 1 50 9;m0 0 8,8;");
+        int[][] loads = {{0, 9}, {1, 9}, {9, 9}, {10, 8}, {11, 8}, {19, 8}, {20, 7}, {79, 2}, {80, 1}, {89, 1}, {90, 0}};
+        for (int[] load : loads) {
+            g.load(0, 0, load[0]);
+            Edge.due("stiff under " + load[0], g.cell(0, 0, 3), load[1]);
+            Edge.due("height under " + load[0] + " by a pull of -1", g.cell(0, 0, 5), 50 - load[1]);
+        }
+    }
+
     private static void heightsAtTheirEnds() {
         Edge.says("Promise 7 (height), row 2", "HEIGHT: BASE and STIFF times PULL.");
         Edge.due("the greatest of all", Check.of("g1 1 99 9;m0 0 18,0;m0 0 18,0;m0 0 18,0;").height(0, 0, 0), 342);
@@ -311,7 +331,8 @@ public final class EdgeGroundTest {
     }
 
     private static void housesThatThereAreNot() {
-        Edge.says("Promise 9 (house)", "what = 0 its CELL (a PAIR), 1 HINGE, 2 PROPS, 3 whether it BREAKS at THE STEP (1, 0), 4 NEED. UNKNOWN, OUTSIDE.");
+        Edge.says("Promise 9 (house)",
+            "what = 0 its CELL (a PAIR), 1 HINGE, 2 PROPS, 3 whether it BREAKS at THE STEP (1, 0), 4 NEED. UNKNOWN, OUTSIDE.");
         TidedGround g = Check.of(Edge.FULLEST);
         g.prop(5, 999);
         Edge.due("cell of house 0", g.house(0, 0), 0);

@@ -169,7 +169,8 @@ public final class EdgeSeenTest {
     }
 
     private static void boundsOfLook() {
-        Edge.says("Promise 32 (look)", "LOOK: what = 0 the CELL (a PAIR), 1 the step, 2 how many are left in the worst case; NONE. OUTSIDE.");
+        Edge.says("Promise 32 (look)",
+            "LOOK: what = 0 the CELL (a PAIR), 1 the step, 2 how many are left in the worst case; NONE. OUTSIDE.");
         // The one soft cell is 5 3; two shifts of four have the same part there at each step.
         TidedGround g = Check.of("g6 4 5 0;c5 3 5 1;m1 1 9,9,10,10;");
         Edge.due("what 0", g.look(0), 53);
@@ -236,6 +237,15 @@ public final class EdgeSeenTest {
         Edge.due("told apart at 11, left", at11.look(2), 1);
         TidedGround at12 = alikeUpTo("g1 1 10 1;m0 0 8,9,10,9,10,9,10,9,10;m0 0 8,9,10,9,10,9,10;", 4, 1, 11);
         noLook("told apart at 12", at12);
+        TidedGround low = Check.of("g1 1 50 1;m0 0 0,9,0,0,9;m0 0 0,0,0,0,9,0,0,0,9;m0 0 0,0;");
+        low.shift(0, 1);
+        low.shift(1, 6);
+        for (int t = 0; t <= 10; t++) {
+            low.see(0, 0, t, low.height(0, 0, t));
+        }
+        Edge.due("four fit, by pulls of -27 at many steps before", low.fits(-1, 0), 4);
+        Edge.due("told apart at 11", low.look(1), 11);
+        Edge.due("two are left", low.look(2), 2);
         TidedGround at0 = Check.of("g1 1 10 1;m0 0 8,10;");
         Edge.due("told apart at 0", at0.look(1), 0);
         at0.pass(5);
@@ -279,6 +289,18 @@ public final class EdgeSeenTest {
         // 729 fit by a row that is another number once: 8 of 9 by each moon have none of it.
         TidedGround many = Check.of("g1 1 50 1;" + "m0 0 9,9,9,9,9,9,9,9,10;".repeat(3));
         Edge.due("512 of 729", many.look(2), 512);
+        // Pulls of -27, -9, 9 and 27, the least and the greatest of all: by 1, 3, 3 and 1 of eight.
+        TidedGround great = Check.of("g1 1 50 9;m0 0 0,18;m0 0 0,18;m0 0 0,18;");
+        Edge.due("three of eight", great.look(2), 3);
+        great.see(0, 0, 0, 50 - 27 * 9);
+        Edge.due("-27 by one", great.fits(-1, 0), 1);
+        // Two by moon 0, three by moon 1, four by moon 2, each another once: 1 of 2, 2 of 3 and 3 of 4 are alike.
+        TidedGround three = Check.of("g3 1 50 1;m0 1 0,18;m1 0 9,9,12;m2 0 9,9,9,10;");
+        Edge.due("six of 24", three.look(2), 6);
+        three.see(0, 0, 0, 41);
+        Edge.due("six fit", three.fits(-1, 0), 6);
+        Edge.due("two of six", three.look(2), 2);
+        Edge.due("at 1 0, where moons 1 and 2 are further on", three.look(0), 10);
     }
 
     private static void boundsOfOdds() {

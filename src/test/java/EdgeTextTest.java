@@ -30,12 +30,16 @@ public final class EdgeTextTest {
         asManyOfEachClause();
         again();
         theEnd();
+        theEndOfAShorterText();
+        theEndOf250Letters();
         theFirstLetter();
         theLeastOfOneLetter();
         anEmptyText();
         theTextIsEmptyThen();
         numbersFrom0On();
         whatAGroundBegins();
+        aPoorGroundBehindARichOne();
+        clausesAreCountedAnew();
         whatAFaultLeaves();
         theLatestFault();
         Check.end();
@@ -489,9 +493,36 @@ public final class EdgeTextTest {
         for (int n = 1; n < 10; n++) {
             bad(text.substring(0, n), 1, n);
         }
-        String unfinished = "g1 1 1 1;" + " ".repeat(235) + "h0 0 1";
-        Edge.due("letters", unfinished.length(), 250);
-        bad(unfinished, 1, 250);
+    }
+
+    private static final String[] CLAUSES = {"g4 6 50 5;", "c0 0 1 1;", "m0 0 1,1,1;", "h0 0 1;", "k0 0 0 1;", "w0 0 1;", "d0 1;"};
+
+    /** Letters of a longer text before it must not be read behind the end. */
+    private static void theEndOfAShorterText() {
+        Edge.says("Promise 4 (fault), row 1", "(the end at the text's length)");
+        for (String clause : CLAUSES) {
+            String text = (clause.charAt(0) == 'g' ? "" : "g4 6 50 5;") + clause;
+            for (int n = text.length() - clause.length() + 1; n < text.length(); n++) {
+                TidedGround g = Check.fed(text);
+                Edge.due("ground() of '" + text + "'", g.ground(), 24);
+                Check.feed(g, text.substring(0, n));
+                Edge.due("ground() of its first " + n + " letters", g.ground(), -11);
+                Edge.due("fault() of its first " + n + " letters", g.fault(), n);
+            }
+        }
+    }
+
+    private static void theEndOf250Letters() {
+        Edge.says("Promise 4 (fault), row 1", "(the end at the text's length)");
+        for (String clause : CLAUSES) {
+            String before = clause.charAt(0) == 'g' ? "" : "g4 6 50 5;";
+            for (int n = 1; n < clause.length(); n++) {
+                String text = before + " ".repeat(250 - before.length() - n) + clause.substring(0, n);
+                Edge.due("letters", text.length(), 250);
+                bad(text, 1, 250);
+            }
+            good(before + " ".repeat(250 - before.length() - clause.length()) + clause, 24);
+        }
     }
 
     private static void theFirstLetter() {
@@ -579,7 +610,8 @@ public final class EdgeTextTest {
     }
 
     private static void whatAGroundBegins() {
-        Edge.says("Promise 3 (ground)", "STEP 0, SHIFTS, LOADS, PROPS, PUSHED 0, STEEP 20; nothing SEEN, no BOOK; IMAGES are gone; THE SEED stays");
+        Edge.says("Promise 3 (ground)",
+            "STEP 0, SHIFTS, LOADS, PROPS, PUSHED 0, STEEP 20; nothing SEEN, no BOOK; IMAGES are gone; THE SEED stays");
         TidedGround g = Edge.busy();
         g.ground();
         Check.feed(g, Check.SMALL);
@@ -594,6 +626,52 @@ public final class EdgeTextTest {
         // The image is gone, though its place was used before.
         Edge.due("goBack(0)", g.goBack(0), Check.NOT);
         Edge.due("goBack(1)", g.goBack(1), Check.NOT);
+    }
+
+    private static void aPoorGroundBehindARichOne() {
+        Edge.says("Promise 3 (ground)", "becomes THE GROUND");
+        String rich = "g4 2 7 3;c0 0 1 1;c1 0 1 9;m3 5 18,18;m3 5 18,17,18;m3 5 18,18;h0 0 1;k0 0 0 0;w0 0 1;d0 0;";
+        for (String poor : new String[] {"", "g1 1 5 1;", "g2 2 7 3;m1 1 9,10,11;", "g3 1 7 3;m0 0 9,10;m1 0 9,9,12;"}) {
+            TidedGround g = Check.of(rich);
+            Check.feed(g, rich);
+            Edge.due("ground() of the rich text again", g.ground(), 8);
+            Check.feed(g, poor);
+            g.ground();
+            TidedGround fresh = Check.of(poor);
+            Edge.due("fits of '" + poor + "'", g.fits(-1, 0), fresh.fits(-1, 0));
+            for (int what = 0; what <= 2; what++) {
+                Edge.due("look of '" + poor + "'", g.look(what), fresh.look(what));
+            }
+            Edge.due("see of '" + poor + "'", g.see(0, 0, 0, 10), fresh.see(0, 0, 0, 10));
+            Edge.due("all that '" + poor + "' tells", Edge.trace(g).equals(Edge.trace(fresh)) ? 1 : 0, 1);
+        }
+    }
+
+    private static void clausesAreCountedAnew() {
+        Edge.says("Promise 3 (ground), row 1", "12 at most: BASE, SOFTNESS of one CELL in place of these; each once");
+        TidedGround g = new TidedGround();
+        StringBuilder most = new StringBuilder("g4 3 0 0;");
+        for (int i = 0; i < 12; i++) {
+            most.append("c").append(i % 4).append(' ').append(i / 4).append(" 1 1;");
+        }
+        for (int i = 0; i < 2; i++) {
+            Check.feed(g, most.toString());
+            Edge.due("ground() of twelve 'c', number " + i, g.ground(), 12);
+        }
+        Check.feed(g, "g4 3 0 0;c0 0 2 2;");
+        Edge.due("ground() of one 'c' behind them", g.ground(), 12);
+        Edge.due("its base", g.cell(0, 0, 0), 2);
+        Edge.due("a base of the text before", g.cell(1, 0, 0), 0);
+        TidedGround full = Check.of(Edge.FULLEST);
+        Check.feed(full, "g2 1 1 1;m0 0 9,9;h0 0 1;k0 0 0 1;w0 0 1;d0 1;");
+        Edge.due("ground() behind the fullest", full.ground(), 2);
+        for (int what = 2; what <= 6; what++) {
+            Edge.due("told(" + what + ") behind the fullest", full.told(what), 1);
+        }
+        TidedGround fault = Check.fed(most + "c0 0 1 1;");
+        Edge.due("ground() of thirteen 'c'", fault.ground(), -13);
+        Check.feed(fault, most.toString());
+        Edge.due("ground() of twelve 'c' behind it", fault.ground(), 12);
     }
 
     private static void whatAFaultLeaves() {

@@ -98,7 +98,8 @@ public final class EdgeTriedTest {
     }
 
     private static void neitherMoves() {
-        Edge.says("Promises 25, 26 (soonest, least)", "Ahead of the calls `soonest`, `least` the interface says: ---- the cart, tried.");
+        Edge.says("Promises 25, 26 (soonest, least)",
+            "Ahead of the calls `soonest`, `least` the interface says: ---- the cart, tried.");
         TidedGround g = Edge.busy();
         TidedGround twin = Edge.busy();
         g.soonest(0, 21, 5);
@@ -108,7 +109,8 @@ public final class EdgeTriedTest {
     }
 
     private static void pairsOfLeast() {
-        Edge.says("Promise 26 (least)", "LEAST: i = NONE what is PUSHED, else the STEP i of it (NONE: not so many); NONE. UNKNOWN, OUTSIDE.");
+        Edge.says("Promise 26 (least)",
+            "LEAST: i = NONE what is PUSHED, else the STEP i of it (NONE: not so many); NONE. UNKNOWN, OUTSIDE.");
         TidedGround g = Check.of("g6 4 0 0;c5 3 7 0;");
         Edge.due("from 0 to 53", g.least(0, 53, 0, 8, Check.NONE), 7);
         Edge.due("from 53 to 0", g.least(53, 0, 0, 8, Check.NONE), 0);
@@ -279,7 +281,8 @@ public final class EdgeTriedTest {
         Edge.says("Promise 27 (water)", "1 below (1 or more)");
         // Floors of -99 and -98: a level below 0 has its sign above.
         TidedGround low = Check.of("g2 1 0 0;w0 0 99;w1 0 98;");
-        int[][] want = {{0, -99, 1, 0}, {1, -98, 1, 1}, {2, -195, 2, 3}, {3, -97, 1, 3}, {195, -1, 1, 3}, {196, -1, 2, 3}, {197, 0, 1, 3}, {198, 1, 2, 3}};
+        int[][] want = {{0, -99, 1, 0}, {1, -98, 1, 1}, {2, -195, 2, 3}, {3, -97, 1, 3},
+            {195, -1, 1, 3}, {196, -1, 2, 3}, {197, 0, 1, 3}, {198, 1, 2, 3}};
         for (int[] w : want) {
             for (int what = 0; what <= 2; what++) {
                 Edge.due("water(" + w[0] + ", 0, " + what + ")", low.water(w[0], 0, what), w[1 + what]);
@@ -312,7 +315,7 @@ public final class EdgeTriedTest {
 
     private static void fiveWells() {
         Edge.says("Promise 27 (water), row 1", "5 WELLS at most, all joined");
-        TidedGround g = Check.of("g5 1 99 9;m1 0 18,0,18,0,18;m1 0 18,0,18,0,18;m1 0 18,0,18,0,18;w0 0 0;w1 0 99;w2 0 0;w3 0 99;w4 0 0;");
+        TidedGround g = Check.of("g5 1 99 9;" + "m1 0 18,0,18,0,18;".repeat(3) + "w0 0 0;w1 0 99;w2 0 0;w3 0 99;w4 0 0;");
         // Floors at step 0: 342, -243, 342, -243, 342: apart as far as can be.
         Edge.due("0", g.water(0, 0, 0), -243);
         Edge.due("0, wet", g.water(0, 0, 2), 0);
