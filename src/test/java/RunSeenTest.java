@@ -3,6 +3,8 @@ public final class RunSeenTest {
     public static void main(String[] args) {
         seenAndLoads();
         looks();
+        threeMoons();
+        longRows();
         seenAndImages();
         odds();
         Check.end();
@@ -57,6 +59,43 @@ see(0, 0, 12, 1) -> 8; see(0, 0, 24, 1) -> 9; see(1, 0, 14, 1) -> 10; see(0, 0, 
 see(1, 0, 990, 0) -> 12; fits(NONE, 0) -> 1 | 992 leaves 0 by 4, 993 leaves 0 by 3: 0 and 0
 see(2, 0, 0, 0) -> FULL; see(3, 0, 0, 0) -> UNKNOWN; see(2, 0, 1000, 0) -> OUTSIDE; told(13) -> 12; fits(0, 1) -> 2
 write(1) -> 1; tear() -> 13; fits(NONE, 0) -> 12; look(2) -> 6; told(13) -> 0; told(14) -> 0
+""");
+    }
+
+    /** Rows 0 1, 0 1 (a step later in the east), 0 4. By SHIFTS a b c 0 0 stands at a and b and 4 times c at step 0. */
+    private static void threeMoons() {
+        Story.run("three moons", """
+text g2 1 0 1;c1 0 0 2;m0 0 9,10;m1 0 9,10;m0 0 9,13;
+ground() -> 2; told(2) -> 3; told(9) -> 2; fits(NONE, 0) -> 8; fits(1, 0) -> 0; fits(1, 1) -> 0; fits(1, 2) -> 1
+fits(2, 0) -> 0; fits(2, 1) -> 1; fits(2, 2) -> 0; fits(4, 0) -> 1; fits(4, 1) -> 0; fits(7, 2) -> 1; fits(8, 2) -> NONE
+look(0) -> 0; look(1) -> 0; look(2) -> 2 | 1 and 5 by two each
+see(0, 0, 0, 1) -> 1; fits(NONE, 0) -> 2; fits(0, 0) -> 0; fits(0, 1) -> 1; fits(0, 2) -> 0; fits(1, 0) -> 1; fits(1, 1) -> 0
+look(0) -> 10; look(1) -> 0; look(2) -> 1; load(1, 0, 20) -> 0; look(0) -> NONE; fits(NONE, 0) -> 2 | 1 and 5 at 0 0 by both
+load(1, 0, 10) -> 20; look(0) -> 10; see(1, 0, 3, 4) -> 2; fits(NONE, 0) -> 1; fits(0, 0) -> 1; fits(0, 1) -> 0; fits(0, 2) -> 0
+load(1, 0, 0) -> 10; fits(NONE, 0) -> 0; shift(0, 1) -> 0; height(0, 0, 0) -> 1; height(1, 0, 3) -> 8; load(1, 0, 10) -> 0
+height(1, 0, 3) -> 4; fits(NONE, 0) -> 1; moon(2, 4) -> 0; pass(1) -> 1; moon(2, 4) -> 4; moon(0, 4) -> 0; moon(1, 4) -> 1
+most(0, 0, 0, 0) -> 1; most(0, 0, 0, 1) -> 5; most(1, 0, 0, 0) -> 1; most(1, 0, 0, 1) -> 4; cell(0, 0, 6) -> 1
+odds(2, 50, 0, 0, 0, 1) -> 1000000000; load(1, 0, 0) -> 10; odds(2, 50, 0, 0, 2, 1) -> 500000000 | 5 and 8, without it 1 and 0
+tear() -> 2; see(0, 0, 0, 6) -> 1; fits(NONE, 0) -> 1; fits(0, 0) -> 1; fits(0, 1) -> 1; fits(0, 2) -> 1; shift(2, 1) -> 0
+see(1, 0, 0, 10) -> 2; fits(NONE, 0) -> 1; shift(1, 1) -> 0; height(0, 0, 0) -> 6; height(1, 0, 0) -> 10; cell(1, 0, 5) -> 2
+tear() -> 2; see(0, 0, 1, 4) -> 1; fits(NONE, 0) -> 1; fits(0, 0) -> 1; fits(0, 1) -> 1; fits(0, 2) -> 0 | 4 at 1: c is 0 there
+see(0, 0, 1, 3) -> 2; fits(NONE, 0) -> 0; fits(0, 0) -> NONE; look(1) -> NONE; tear() -> 2; look(2) -> 2
+""");
+    }
+
+    /** Three rows of nine: 9 once, -9 once, 0 seven times. Of 729 SHIFTS 385 leave 50 as it is, 150 lift it by 9. */
+    private static void longRows() {
+        Story.run("rows of nine", """
+text g1 1 50 1;m0 0 18,0,9,9,9,9,9,9,9;m0 0 18,0,9,9,9,9,9,9,9;m0 0 18,0,9,9,9,9,9,9,9;
+ground() -> 1; told(9) -> 9; fits(NONE, 0) -> 729; look(0) -> 0; look(1) -> 0; look(2) -> 385 | 343, and 42 with both 9 and -9
+fits(728, 0) -> 8; fits(728, 2) -> 8; fits(729, 0) -> NONE; fits(81, 0) -> 1; fits(81, 1) -> 0; fits(9, 1) -> 1; fits(9, 2) -> 0
+height(0, 0, 0) -> 77; height(0, 0, 1) -> 23; height(0, 0, 2) -> 50; turn(0, 0, 1) -> 0; turn(0, 0, 2) -> 7; most(0, 0, 1, 0) -> 9
+see(0, 0, 0, 59) -> 1; fits(NONE, 0) -> 150; fits(0, 0) -> 0; fits(0, 1) -> 0; fits(0, 2) -> 1; fits(1, 1) -> 1; fits(1, 2) -> 0
+fits(2, 1) -> 2; fits(2, 2) -> 2; fits(149, 0) -> 8; fits(149, 1) -> 8; fits(149, 2) -> 0; fits(150, 0) -> NONE
+tear() -> 1; see(0, 0, 0, 77) -> 1; fits(NONE, 0) -> 1; tear() -> 1; see(0, 0, 9, 23) -> 1; fits(NONE, 0) -> 1; fits(0, 1) -> 1
+tear() -> 1; see(0, 0, 0, 68) -> 1; fits(NONE, 0) -> 21; tear() -> 1; see(0, 0, 0, 60) -> 1; fits(NONE, 0) -> 0; tear() -> 1
+shift(0, 8) -> 0; shift(1, 8) -> 0; height(0, 0, 0) -> 59; height(0, 0, 1) -> 59; height(0, 0, 2) -> 32; turn(0, 0, 1) -> 1
+most(0, 0, 0, 0) -> 0; most(0, 0, 1, 0) -> 1; load(0, 0, 10) -> 0; look(0) -> NONE; most(0, 0, 0, 1) -> 9; fits(NONE, 0) -> 729; turn(0, 0, 1) -> NONE
 """);
     }
 
