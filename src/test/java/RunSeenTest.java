@@ -95,7 +95,8 @@ fits(2, 1) -> 2; fits(2, 2) -> 2; fits(149, 0) -> 8; fits(149, 1) -> 8; fits(149
 tear() -> 1; see(0, 0, 0, 77) -> 1; fits(NONE, 0) -> 1; tear() -> 1; see(0, 0, 9, 23) -> 1; fits(NONE, 0) -> 1; fits(0, 1) -> 1
 tear() -> 1; see(0, 0, 0, 68) -> 1; fits(NONE, 0) -> 21; tear() -> 1; see(0, 0, 0, 60) -> 1; fits(NONE, 0) -> 0; tear() -> 1
 shift(0, 8) -> 0; shift(1, 8) -> 0; height(0, 0, 0) -> 59; height(0, 0, 1) -> 59; height(0, 0, 2) -> 32; turn(0, 0, 1) -> 1
-most(0, 0, 0, 0) -> 0; most(0, 0, 1, 0) -> 1; load(0, 0, 10) -> 0; look(0) -> NONE; most(0, 0, 0, 1) -> 9; fits(NONE, 0) -> 729; turn(0, 0, 1) -> NONE
+most(0, 0, 0, 0) -> 0; most(0, 0, 1, 0) -> 1; load(0, 0, 10) -> 0; look(0) -> NONE
+most(0, 0, 0, 1) -> 9; fits(NONE, 0) -> 729; turn(0, 0, 1) -> NONE
 """);
     }
 
